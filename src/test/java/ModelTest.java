@@ -15,6 +15,7 @@ public final class ModelTest {
             checks.part("round " + round);
             faults();
             seas();
+            pairs();
             disputes();
         }
         checks.finish();
@@ -44,7 +45,9 @@ public final class ModelTest {
             w = 6;
             h = 6;
         }
-        t.append("wind ").append(below(4)).append(' ').append(below(4)).append(";\n");
+        if (below(4) > 0) {
+            t.append("wind ").append(below(4)).append(' ').append(below(4)).append(";\n");
+        }
         if (below(2) == 0) {
             t.append("nets ").append(from(1, 9)).append(" ; ");
         }
@@ -272,6 +275,31 @@ public final class ModelTest {
         }
         checks.due("pair what 3", x.pair(0, a, b, 3), -1);
         checks.due("pair what -1", x.pair(0, a, b, -1), -1);
+    }
+
+    /** Small seas and low voices, so that it matters where the other boat is. */
+    private static void pairs() {
+        ShoalClaims x = new ShoalClaims();
+        Model m = new Model();
+        int w = from(2, 4);
+        int h = from(2, 4);
+        StringBuilder t = new StringBuilder("size " + w + " " + h + ";wind " + below(4) + " " + below(3) + ";");
+        for (int c = 0; c < 3; c++) {
+            t.append("coast " + c + " 1 " + below(4) + " " + below(3) + " 5;");
+        }
+        for (int i = 0; i < 4; i++) {
+            t.append("shoal " + below(w * h) + " " + from(1, 9) + " 4;");
+            t.append("boat " + below(w * h) + " " + below(4) + " " + below(3) + ";");
+        }
+        tell(x, m, 0, -1, below(3) == 0 ? t + "deaf " + below(4) + ";" : t.toString());
+        for (int a = 0; a < 4; a++) {
+            for (int b = 0; b < 4; b++) {
+                int[] want = m.pair(0, a, b);
+                for (int what = 0; what < 3; what++) {
+                    checks.due("pair(0, " + a + ", " + b + ", " + what + ") of " + t, x.pair(0, a, b, what), want[what]);
+                }
+            }
+        }
     }
 
     private static void wordsAndChoices(ShoalClaims x, Model m, int n) {

@@ -282,6 +282,10 @@ public final class PromisesTest {
             checks.due("sea(0, " + what + ")", x.sea(0, what), first[what]);
             checks.due("sea(1, " + what + ")", x.sea(1, what), second[what]);
         }
+        Checks.tell(x, 0, 1, "");
+        for (int what = 0; what < first.length; what++) {
+            checks.due("as at first: sea(1, " + what + ")", x.sea(1, what), first[what]);
+        }
         checks.due("sea(2, 0)", x.sea(2, 0), NONE);
         checks.due("sea(-1, 0)", x.sea(-1, 0), NONE);
         checks.due("sea(0, -1)", x.sea(0, -1), NONE);
@@ -649,6 +653,11 @@ public final class PromisesTest {
         checks.due("together", y.pair(0, 0, 1, 0), 2);
         checks.due("together", y.pair(0, 0, 1, 1), 2);
         checks.due("fish", y.pair(0, 0, 1, 2), 6);
+        // the second boat is no witness in the cell that it has left
+        ShoalClaims z = told("size 3 2;coast 0 1 1 0 1;coast 1 1 0 0 1;shoal 1 5 4;shoal 2 4 4;boat 0 0 0;boat 1 0 1;");
+        checks.due("the first goes to the second", z.pair(0, 0, 1, 0), 0);
+        checks.due("which can claim alone", z.pair(0, 0, 1, 1), 1);
+        checks.due("but one shoal", z.pair(0, 0, 1, 2), 5);
     }
 
     private static void dispute() {
