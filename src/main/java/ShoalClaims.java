@@ -603,7 +603,7 @@ public final class ShoalClaims {
             return width < 1 ? 0 : cell % width;
         }
 
-        /** How many rows or waits of a BOAT lie between two CELLS at least. */
+        /** How many rows of a BOAT lie between two CELLS at least. */
         int rowsBetween(int from, int to) {
             return Math.abs(rowOf(to) - rowOf(from)) + Math.abs(columnOf(to) - columnOf(from));
         }
@@ -1518,7 +1518,7 @@ public final class ShoalClaims {
         int bestSecond;
         int bestFish;
 
-        /** Of each CELL (the second BOAT's behind the first one's): SHOALS (bits) near enough; witnesses but for the other BOAT. */
+        /** Of each CELL (the second BOAT's behind the first one's): SHOALS (bits) near, witnesses but for the other BOAT. */
         private final int[] near = new int[2 * MOST_CELLS];
         private final int[] witnesses = new int[2 * MOST_CELLS];
         /** FISH of SHOALS (bits) together. */
