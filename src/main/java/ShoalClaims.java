@@ -91,21 +91,13 @@ public final class ShoalClaims {
     }
 
     public int text(int sort, int at) {
-        told.fault = 0;
-        told.place = NONE;
-        if (sort < 0 || sort >= SORTS) {
-            return NO_SUCH;
-        }
-        boolean further = at == NONE;
-        int number = further ? told.numbers[sort] : at;
-        int most = further ? MOST_OF_A_SORT : told.numbers[sort];
-        if (number < 0 || number >= most) {
+        int number = told.numberFor(sort, at);
+        if (number == NO_SUCH) {
+            told.takeTape(0, NONE);
             return NO_SUCH;
         }
         reader.read(told.tape, sort);
-        told.tape.length = 0;
-        told.fault = reader.fault;
-        told.place = reader.place;
+        told.takeTape(reader.fault, reader.place);
         if (reader.fault != 0) {
             return NONE;
         }
@@ -799,6 +791,24 @@ public final class ShoalClaims {
 
         Dispute findDispute(int dispute) {
             return dispute < 0 || dispute >= numbers[DISPUTES] ? null : disputes[dispute];
+        }
+
+        /** The number of a further one of a sort (at NONE), or of the one in whose place a text comes. */
+        int numberFor(int sort, int at) {
+            if (sort < 0 || sort >= SORTS) {
+                return NO_SUCH;
+            }
+            if (at == NONE) {
+                return numbers[sort] < MOST_OF_A_SORT ? numbers[sort] : NO_SUCH;
+            }
+            return at < 0 || at >= numbers[sort] ? NO_SUCH : at;
+        }
+
+        /** Every text() takes the tape, also one that has no place for a text and reads none. */
+        void takeTape(int faultOfText, int placeOfFault) {
+            tape.length = 0;
+            fault = faultOfText;
+            place = placeOfFault;
         }
 
         void keep(Reader reader, int sort, int number) {

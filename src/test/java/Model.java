@@ -93,6 +93,8 @@ final class Model {
     int text(int sort, int at) {
         fault = 0;
         place = -1;
+        String s = tape.toString();
+        tape.setLength(0);
         if (sort < 0 || sort > 2) {
             return -2;
         }
@@ -100,8 +102,6 @@ final class Model {
         if (at == -1 ? all.size() == 2 : at < 0 || at >= all.size()) {
             return -2;
         }
-        String s = tape.toString();
-        tape.setLength(0);
         List<int[]> lines = new ArrayList<>();
         List<int[]> faults = new ArrayList<>();
         parse(s, sort, lines, faults);

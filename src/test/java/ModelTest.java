@@ -175,6 +175,7 @@ public final class ModelTest {
         m.tape.setLength(0);
         m.tape.append(text);
         checks.due("text(" + sort + ", " + at + ") of [" + text + "]", x.text(sort, at), m.text(sort, at));
+        checks.due("end(1) behind text(" + sort + ", " + at + ")", x.end(1), m.end(1));
         checks.due("fault(0) of [" + text + "]", x.fault(0), m.fault);
         checks.due("fault(1) of [" + text + "]", x.fault(1), m.place);
     }

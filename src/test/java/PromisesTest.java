@@ -121,16 +121,12 @@ public final class PromisesTest {
         for (int sort = 0; sort < 3; sort++) {
             String t = sort == 2 ? "said 1 2;" : "";
             checks.due("in the place of none", Checks.tell(x, sort, 0, t), -2);
-            x.end(0);
             checks.due("the first", Checks.tell(x, sort, NONE, t), 0);
             checks.due("in the place of the second", Checks.tell(x, sort, 1, t), -2);
-            x.end(0);
             checks.due("the second", Checks.tell(x, sort, NONE, t), 1);
             checks.due("a third", Checks.tell(x, sort, NONE, t), -2);
-            x.end(0);
             checks.due("the first anew", Checks.tell(x, sort, 0, t), 0);
             checks.due("at -2", Checks.tell(x, sort, -2, t), -2);
-            x.end(0);
         }
         checks.due("sort 3", x.text(3, NONE), -2);
         checks.due("sort -1", x.text(-1, NONE), -2);
@@ -140,10 +136,30 @@ public final class PromisesTest {
         checks.due("anew", Checks.tell(x, 0, 1, "size 3 4;nets 3;"), 1);
         checks.due("the second is another", x.sea(1, 0), 3);
         checks.due("the first is not", x.sea(0, 0), 6);
-        Checks.put(x, "size 9");
-        checks.due("no such sort", x.text(9, 0), -2);
-        checks.due("no text is read: the tape stays", x.end(6), 6);
-        checks.due("fault 0 then", x.fault(0), 0);
+        textWithoutAPlace();
+    }
+
+    /** No text is read, but the tape is taken all the same, and an earlier FAULT is over. */
+    private static void textWithoutAPlace() {
+        int[][] sortAndAt = {{9, 0}, {3, NONE}, {-1, NONE}, {0, 1}, {0, -2}, {1, NONE}, {1, 2}, {2, 0}};
+        ShoalClaims x = new ShoalClaims();
+        Checks.tell(x, Checks.SEA, NONE, "size 3 4;");
+        Checks.tell(x, Checks.DAY, NONE, "wait;");
+        Checks.tell(x, Checks.DAY, NONE, "wait;wait;");
+        for (int[] call : sortAndAt) {
+            String name = "text(" + call[0] + ", " + call[1] + ")";
+            checks.due("a fault before", Checks.tell(x, Checks.SEA, NONE, "size 9"), NONE);
+            Checks.put(x, "size 9");
+            checks.due(name, x.text(call[0], call[1]), -2);
+            checks.due("fault(0) behind " + name, x.fault(0), 0);
+            checks.due("fault(1) behind " + name, x.fault(1), NONE);
+            checks.due("the tape is empty behind " + name, x.end(1), NONE);
+            checks.due("feed behind " + name, x.feed(0, 0, 0, 0, 0), 20);
+            x.end(0);
+        }
+        checks.due("seas", x.count(Checks.SEA), 1);
+        checks.due("days", x.count(Checks.DAY), 2);
+        checks.due("disputes", x.count(Checks.DISPUTE), 0);
     }
 
     private static void faulty(int sort, String t, int fault, int place) {
