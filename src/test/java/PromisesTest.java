@@ -141,7 +141,8 @@ public final class PromisesTest {
 
     /** No text is read, but the tape is taken all the same, and an earlier FAULT is over. */
     private static void textWithoutAPlace() {
-        int[][] sortAndAt = {{9, 0}, {3, NONE}, {-1, NONE}, {0, 1}, {0, -2}, {1, NONE}, {1, 2}, {2, 0}};
+        int[][] sortAndAt = {{9, 0}, {3, NONE}, {-1, NONE}, {0, 1}, {0, -2}, {0, -3},
+            {0, Integer.MIN_VALUE}, {1, NONE}, {1, 2}, {2, 0}, {2, Integer.MAX_VALUE}};
         ShoalClaims x = new ShoalClaims();
         Checks.tell(x, Checks.SEA, NONE, "size 3 4;");
         Checks.tell(x, Checks.DAY, NONE, "wait;");
