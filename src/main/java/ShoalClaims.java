@@ -1369,17 +1369,25 @@ public final class ShoalClaims {
             }
             int fish = shoals.fish[shoal];
             netHolder = shoals.holderAt(shoal, hour);
-            holderFish = 0;
-            if (netHolder != NONE && netHolder != boat) {
-                int syllables = shoals.syllables[shoal];
-                int parts = syllables + sea.nets;
-                holderFish = parts < 1 ? 0 : fish * syllables / parts;
-                boatFish[netHolder] += holderFish;
-            }
-            netterFish = fish - holderFish;
+            int toAnother = fishOfAnother(boat, shoal);
+            netterFish = fish - toAnother;
+            holderFish = netHolder == boat ? netterFish : toAnother;
             boatFish[boat] += netterFish;
+            if (netHolder != NONE && netHolder != boat) {
+                boatFish[netHolder] += toAnother;
+            }
             shoals.remove(shoal);
             return true;
+        }
+
+        /** What the netter leaves to another BOAT that HOLDS the SHOAL; nothing if it or nobody HOLDS it. */
+        private int fishOfAnother(int netter, int shoal) {
+            if (netHolder == NONE || netHolder == netter) {
+                return 0;
+            }
+            int syllables = shoals.syllables[shoal];
+            int parts = syllables + sea.nets;
+            return parts < 1 ? 0 : shoals.fish[shoal] * syllables / parts;
         }
 
         int lawfulClaims() {

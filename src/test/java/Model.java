@@ -650,14 +650,15 @@ final class Model {
                 return false;
             }
             int held = m.holderAt(hour);
+            int[] before = fish.clone();
             int his = held < 0 || held == b ? 0 : m.fish * m.syllables / (m.syllables + s.nets);
-            record[1] = m.fish - his;
-            record[2] = his;
-            record[3] = held;
             fish[b] += m.fish - his;
-            if (held >= 0) {
+            if (his > 0) {
                 fish[held] += his;
             }
+            record[1] = fish[b] - before[b];
+            record[2] = held < 0 ? 0 : fish[held] - before[held];
+            record[3] = held;
             m.netted = true;
             return true;
         }

@@ -578,11 +578,22 @@ public final class PromisesTest {
         checks.due("the others", cut.shares(0, 0, 1, 0), 7);
         checks.due("its own: all", cut.shares(0, 0, 3, 0), 7);
         checks.due("its own: it held", cut.shares(0, 0, 3, 1), 1);
+        checks.due("its own: all FISH of that one", cut.shares(0, 0, 3, 2), 7);
         Checks.tell(cut, 0, 0, "nets 4;coast 0 1 0 9 9;shoal 0 10 4;shoal 0 7 4;boat 1 0 0;boat 0 0 0;");
         checks.due("cut: 10 * 3 / 7", cut.shares(0, 0, 1, 2), 4);
         checks.due("the others", cut.shares(0, 0, 1, 0), 6);
         checks.due("boat 0 has them", cut.has(0, 0, 4, 0, 1), 4);
         checks.due("boat 1 has them", cut.has(0, 0, 4, 1, 1), 13);
+        Checks.tell(cut, 0, 0, "nets 9;coast 0 1 0 9 1;shoal 0 1 4;shoal 0 7 4;boat 1 0 0;boat 0 0 0;");
+        checks.due("the holder's, cut to nothing", cut.shares(0, 0, 1, 2), 0);
+        checks.due("who held it all the same", cut.shares(0, 0, 1, 1), 0);
+        Checks.tell(cut, 1, 0, "claim 1 1 2;net 1 1;");
+        checks.due("its own in its last hour", cut.shares(0, 0, 1, 2), 7);
+        checks.due("its own fish are told once", cut.has(0, 0, 2, 1, 1), 7);
+        Checks.tell(cut, 1, 0, "claim 1 1 2;wait;net 1 1;");
+        checks.due("no more its own: nobody's", cut.shares(0, 0, 2, 1), NONE);
+        checks.due("no more its own: nobody's fish", cut.shares(0, 0, 2, 2), 0);
+        checks.due("no more its own: all to it", cut.shares(0, 0, 2, 0), 7);
     }
 
     private static void twice() {
