@@ -1,4 +1,5 @@
 import java.nio.charset.StandardCharsets;
+import java.util.function.IntUnaryOperator;
 
 /** What the tests share: telling texts, and counting answers that are not due. */
 final class Checks {
@@ -14,6 +15,11 @@ final class Checks {
         part = name;
     }
 
+    /** The tests behind it hold this sentence of the document. */
+    void sentence(String where, String words) {
+        part = where + " \"" + words + "\"";
+    }
+
     void due(String call, int got, int want) {
         asked++;
         if (got != want) {
@@ -24,6 +30,39 @@ final class Checks {
 
     void due(String call, boolean got, boolean want) {
         due(call, got ? 1 : 0, want ? 1 : 0);
+    }
+
+    /** A call answers the same for each of these numbers, and for those farthest from all that can be. */
+    void same(String call, int want, IntUnaryOperator answer, int... numbers) {
+        for (int n : numbers) {
+            due(call + " of " + n, answer.applyAsInt(n), want);
+        }
+        due(call + " of the least int", answer.applyAsInt(Integer.MIN_VALUE), want);
+        due(call + " of the greatest int", answer.applyAsInt(Integer.MAX_VALUE), want);
+    }
+
+    /** A call answers these for 0, 1, 2 .. */
+    void row(String call, IntUnaryOperator answer, int... want) {
+        for (int i = 0; i < want.length; i++) {
+            due(call + " of " + i, answer.applyAsInt(i), want[i]);
+        }
+    }
+
+    /** A new object with a SEA and DAYS on it. */
+    ShoalClaims told(String sea, String... days) {
+        ShoalClaims x = new ShoalClaims();
+        due("telling [" + sea + "]", tell(x, SEA, ShoalClaims.NONE, sea), 0);
+        for (int i = 0; i < days.length; i++) {
+            due("telling [" + days[i] + "]", tell(x, DAY, ShoalClaims.NONE, days[i]), i);
+        }
+        return x;
+    }
+
+    /** A new object with a DISPUTE. */
+    ShoalClaims disputed(String dispute) {
+        ShoalClaims x = new ShoalClaims();
+        due("telling [" + dispute + "]", tell(x, DISPUTE, ShoalClaims.NONE, dispute), 0);
+        return x;
     }
 
     void finish() {
