@@ -43,6 +43,7 @@ public final class EdgesOfDaysTest {
         twice();
         gullsBounds();
         gullsDraws();
+        gullsWrapAround();
         gullsWhoeverSpeaks();
         gullsInEachClaim();
         gullsOfAnAll();
@@ -54,12 +55,14 @@ public final class EdgesOfDaysTest {
     }
 
     private static void deed() {
-        checks.sentence("Promise 12", "How many DEEDS (k NONE, what 0)");
+        checks.sentence("Terms 1", "A DAY has DEEDS, at most 30, from 0 on.");
         checks.due("no DEEDS", checks.told("", "").deed(0, NONE, 0), 0);
         ShoalClaims x = checks.told("", "wait;".repeat(29) + "claim 5 4 20;", "row 1 2;");
         checks.due("30 DEEDS", x.deed(0, NONE, 0), 30);
         checks.due("one DEED", x.deed(1, NONE, 0), 1);
         checks.row("the last DEED", what -> x.deed(0, 29, what), 1, 5, 4, 20, -2);
+        checks.sentence("Promise 12", "How many DEEDS (k NONE, what 0); of DEED k, what 0");
+        checks.due("the first DEED", x.deed(1, 0, 0), 0);
         checks.sentence("Promise 12", "-2: there is none such (of either), or for another what.");
         checks.same("NONE with another what", -2, what -> x.deed(0, NONE, what), -1, 1, 2, 3, 4);
         checks.same("no such DEED", -2, k -> x.deed(0, k, 0), -2, -3, 30, 31);
@@ -287,7 +290,9 @@ public final class EdgesOfDaysTest {
         checks.row("as told", s -> x.state(0, 0, 0, s, 1), 9, 8, -2, -2, -2, -2, -2);
         checks.row("netted", s -> x.state(0, 0, 1, s, 1), -2, 8, -2, -2, -2, -2, -2);
         checks.row("of the netted one", what -> x.state(0, 0, 1, 0, what), -2, -2, -2, -2, -2, -2, -2);
+        checks.sentence("Promise 14", "Of a SHOAL, 0 .. 5, in a STATE");
         checks.same("no such SHOAL", -2, s -> x.state(0, 0, 0, s, 0), -1, 2, 5, 6, 32);
+        checks.sentence("Promise 14", "there is no such STATE, or for another what.");
         checks.same("another what", -2, what -> x.state(0, 0, 0, 0, what), -1, 6, 7);
         checks.same("no such SEA", -2, sea -> x.state(sea, 0, 0, 0, 0), -1, 1);
         checks.same("no such DAY", -2, day -> x.state(0, day, 0, 0, 0), -1, 1);
@@ -463,6 +468,8 @@ public final class EdgesOfDaysTest {
 
     private static void shares() {
         checks.sentence("Terms 2", "of a SHOAL netted by a BOAT that HOLDS it, or that nobody HOLDS: all FISH to it.");
+        sharesAre(TWO, "claim 0 0 1;net 0 0;", 9, 0, 9, -2);
+        checks.sentence("Promise 17", "1: who HELD it (NONE: nobody), 2: FISH of that one.");
         sharesAre(TWO, "net 1 0;", 9, NONE, 0, -2);
         sharesAre(TWO, "claim 1 0 1;net 1 0;", 9, 1, 9, -2);
         sharesAre(TWO, "claim 0 0 1;wait;wait;net 1 0;", 8, 0, 1, -2);
@@ -534,12 +541,14 @@ public final class EdgesOfDaysTest {
         checks.sentence("Promise 24", "NONE: there is none such (of any), another k, or for another what.");
         ShoalClaims x = checks.told("coast 0 1 1 20 9;shoal 0 9 4;boat 0 0 0;boat 0 0 0;", "claim 0 0 1;net 1 0;row 0 0;");
         checks.row("without gulls", what -> x.gulls(0, 0, 0, 0, what), 1, 2, NONE);
+        checks.sentence("Promise 24", "GULLS, k 0 .. 10");
         checks.row("FISH without gulls", b -> x.gulls(0, 0, 0, 0, 10 + b), 1, 8, NONE);
         checks.row("with gulls that nobody outcries", what -> x.gulls(0, 0, 0, 10, what), 0, 2, NONE);
         checks.row("FISH with them", b -> x.gulls(0, 0, 0, 10, 10 + b), 0, 9, NONE);
         checks.same("another k", NONE, k -> x.gulls(0, 0, 0, k, 0), -1, 11, 12);
         checks.same("another k, STOP", NONE, k -> x.gulls(0, 0, 0, k, 1), -1, 11);
         checks.same("another k, FISH", NONE, k -> x.gulls(0, 0, 0, k, 10), -1, 11);
+        checks.sentence("Promise 24", "NONE: there is none such (of any), another k, or for another what.");
         checks.same("another what", NONE, what -> x.gulls(0, 0, 0, 0, what), -1, 2, 3, 9, 12, 15, 16);
         checks.same("no such SEA", NONE, sea -> x.gulls(sea, 0, 0, 0, 0), -1, 1);
         checks.same("no such DAY", NONE, day -> x.gulls(0, day, 0, 0, 0), -1, 1);
@@ -571,6 +580,18 @@ public final class EdgesOfDaysTest {
                     int got = checks.told(law, "claim 0 0 1;").gulls(0, 0, d[0], k, 0);
                     checks.due("seed " + d[0] + ", k " + k + ", " + asked + " asked", got, still >= asked ? 1 : 0);
                 }
+            }
+        }
+    }
+
+    private static void gullsWrapAround() {
+        checks.sentence("Terms 4", "x becomes x * 1103515245 + 12345 (of 32 bits), it is x shifted right by 16 without sign, remainder by n");
+        ShoalClaims x = checks.told("coast 0 1 1 20 1;shoal 0 9 4;boat 0 0 0;boat 0 0 0;", "claim 0 0 1;");
+        // of -1, 2, 3 and the least int x has its highest bit: 3191464396, 2207042835, 3310558080, 2147495993
+        int[][] firstDraws = {{-1, 7}, {-2, 9}, {Integer.MAX_VALUE, 9}, {Integer.MIN_VALUE, 8}, {0, 0}, {1, 8}, {2, 6}, {3, 5}};
+        for (int[] d : firstDraws) {
+            for (int k = 0; k <= 10; k++) {
+                checks.due("seed " + d[0] + ", k " + k, x.gulls(0, 0, d[0], k, 0), d[1] < k ? 0 : 1);
             }
         }
     }

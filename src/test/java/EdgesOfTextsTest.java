@@ -240,8 +240,8 @@ public final class EdgesOfTextsTest {
     }
 
     /** A line with # where the NUMBER comes: all from least to most can be, of one or two digits, and no others. */
-    private static void bounds(int sort, String line, int least, int most) {
-        checks.part("Terms 1 [" + line + "], " + least + " .. " + most + ", \"2 a NUMBER that can't be (as above\"");
+    private static void bounds(int sort, String words, String line, int least, int most) {
+        checks.sentence("Terms 1", words);
         String ahead = AHEAD_OF_LINES[sort];
         int place = ahead.length() + line.indexOf('#');
         for (int n = 0; n <= 99; n++) {
@@ -251,49 +251,50 @@ public final class EdgesOfTextsTest {
                 faulty(sort, ahead + line.replace("#", "0" + n), fits ? 0 : 2, fits ? NONE : place);
             }
         }
-        checks.sentence("Terms 1", "a longer row of digits is no token");
+        checks.sentence("Terms 1", "NUMBERS, 1 or 2 digits");
         faulty(sort, ahead + line.replace("#", "100"), 1, place);
         faulty(sort, ahead + line.replace("#", "00" + least), 1, place);
     }
 
+    /** Each NUMBER of a line, with the sentence that bounds it: 2 a NUMBER that can't be (as above). */
     private static void seaNumbers() {
-        bounds(0, "size # 8;", 2, 8);
-        bounds(0, "size 8 #;", 2, 8);
-        bounds(0, "wind # 1;", 0, 3);
-        bounds(0, "wind 1 #;", 0, 3);
-        bounds(0, "nets #;", 1, 9);
-        bounds(0, "coast # 1 1 1 1;", 0, 2);
-        bounds(0, "coast 1 # 1 1 1;", 1, 20);
-        bounds(0, "coast 1 1 # 1 1;", 0, 5);
-        bounds(0, "coast 1 1 1 # 1;", 0, 20);
-        bounds(0, "coast 1 1 1 1 #;", 1, 30);
-        bounds(0, "shoal # 1 1;", 0, 63);
-        bounds(0, "shoal 1 # 1;", 1, 99);
-        bounds(0, "shoal 1 1 #;", 0, 4);
-        bounds(0, "boat # 1 1;", 0, 63);
-        bounds(0, "boat 1 # 1;", 0, 20);
-        bounds(0, "boat 1 1 #;", 0, 2);
-        bounds(0, "boat 0 0 0;boat 0 0 0;boat 0 0 0;boat 0 0 0;boat 0 0 0;boat 0 0 0;deaf #;", 0, 5);
+        bounds(0, "A SEA has W columns and H rows, 2 .. 8", "size # 8;", 2, 8);
+        bounds(0, "A SEA has W columns and H rows, 2 .. 8", "size 8 #;", 2, 8);
+        bounds(0, "a WIND: a side (0 north, 1 east, 2 south, 3 west) to which it blows", "wind # 1;", 0, 3);
+        bounds(0, "its STRENGTH, 0 .. 3", "wind 1 #;", 0, 3);
+        bounds(0, "NETS, 1 .. 9 (4)", "nets #;", 1, 9);
+        bounds(0, "of COASTS 0 .. 2 a law", "coast # 1 1 1 1;", 0, 2);
+        bounds(0, "SYLLABLES, 1 .. 20", "coast 1 # 1 1 1;", 1, 20);
+        bounds(0, "WITNESSES, 0 .. 5", "coast 1 1 # 1 1;", 0, 5);
+        bounds(0, "NEAR, 0 .. 20", "coast 1 1 1 # 1;", 0, 20);
+        bounds(0, "HOLD, 1 .. 30", "coast 1 1 1 1 #;", 1, 30);
+        bounds(0, "CELLS are 0 .. 63", "shoal # 1 1;", 0, 63);
+        bounds(0, "FISH, 1 .. 99", "shoal 1 # 1;", 1, 99);
+        bounds(0, "a DRIFT: a side, or 4: none", "shoal 1 1 #;", 0, 4);
+        bounds(0, "CELLS are 0 .. 63", "boat # 1 1;", 0, 63);
+        bounds(0, "a VOICE, 0 .. 20", "boat 1 # 1;", 0, 20);
+        bounds(0, "of COASTS 0 .. 2 a law", "boat 1 1 #;", 0, 2);
+        bounds(0, "BOATS 0 .. 5", "boat 0 0 0;boat 0 0 0;boat 0 0 0;boat 0 0 0;boat 0 0 0;boat 0 0 0;deaf #;", 0, 5);
     }
 
     private static void dayNumbers() {
-        bounds(1, "row # 0;", 0, 5);
-        bounds(1, "row 0 #;", 0, 3);
-        bounds(1, "claim # 0 1;", 0, 5);
-        bounds(1, "claim 0 # 1;", 0, 5);
-        bounds(1, "claim 0 0 #;", 1, 20);
-        bounds(1, "all # 1;", 0, 5);
-        bounds(1, "all 0 #;", 1, 20);
-        bounds(1, "split # 0;", 0, 5);
-        bounds(1, "split 0 #;", 0, 5);
-        bounds(1, "net # 0;", 0, 5);
-        bounds(1, "net 0 #;", 0, 5);
+        bounds(1, "row: BOAT, side", "row # 0;", 0, 5);
+        bounds(1, "row: BOAT, side", "row 0 #;", 0, 3);
+        bounds(1, "claim: BOAT, SHOAL, syllables, 1 .. 20", "claim # 0 1;", 0, 5);
+        bounds(1, "claim: BOAT, SHOAL, syllables, 1 .. 20", "claim 0 # 1;", 0, 5);
+        bounds(1, "claim: BOAT, SHOAL, syllables, 1 .. 20", "claim 0 0 #;", 1, 20);
+        bounds(1, "all: BOAT, syllables", "all # 1;", 0, 5);
+        bounds(1, "all: BOAT, syllables", "all 0 #;", 1, 20);
+        bounds(1, "BOATS 0 .. 5", "split # 0;", 0, 5);
+        bounds(1, "SHOALS are 0 .. 5", "split 0 #;", 0, 5);
+        bounds(1, "BOATS 0 .. 5", "net # 0;", 0, 5);
+        bounds(1, "SHOALS are 0 .. 5", "net 0 #;", 0, 5);
     }
 
     private static void disputeNumbers() {
-        bounds(2, "said # 99;", 0, 99);
-        bounds(2, "said 0 #;", 0, 99);
-        bounds(2, "said 0 9;ahead 0 #;", 1, 8);
+        bounds(2, "each with an hour FROM, an hour TO, 0 .. 99, not ahead of it", "said # 99;", 0, 99);
+        bounds(2, "each with an hour FROM, an hour TO, 0 .. 99, not ahead of it", "said 0 #;", 0, 99);
+        bounds(2, "a SAYING, 0 .. 8, that was ahead of another one", "said 0 9;ahead 0 #;", 1, 8);
         checks.sentence("Terms 1", "ahead: a SAYING, 0 .. 8, that was ahead of another one");
         for (int n = 0; n <= 99; n++) {
             String line = "ahead " + n + (n == 8 ? " 7;" : " 8;");
@@ -411,8 +412,10 @@ public final class EdgesOfTextsTest {
         faulty(1, "wai t;", 1, 0);
         faulty(0, "size88;", 1, 6);
         faulty(0, "size 8 8 8;", 1, 9);
+        checks.sentence("Terms 1", "(a longer row of digits is no token)");
         faulty(0, "size 888;", 1, 5);
         faulty(0, "size 2 0000000002;", 1, 7);
+        checks.sentence("Terms 1", "blanks (10, 32) between");
         fine(0, "size8 8;nets9;");
         fine(0, "\n\n size\n \n8\n8\n\n;\n");
         fine(1, "wait;wait;\nwait ; wait\n;");
@@ -620,7 +623,7 @@ public final class EdgesOfTextsTest {
     }
 
     private static void images() {
-        checks.sentence("Promise 32", "true; false for another k.");
+        checks.sentence("Promise 32", "Image k (0 .. 2) is all that is told");
         ShoalClaims x = checks.told("nets 7;");
         checks.same("image", 0, k -> image(x, k), -1, 3, 4, -2);
         checks.sentence("Promise 33", "true; false if there is none such.");
