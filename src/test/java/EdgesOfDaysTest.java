@@ -695,6 +695,9 @@ public final class EdgesOfDaysTest {
         checks.row("all netted", what -> x.sum(0, 0, what), 0, 0, 2, 0, -2);
         Checks.tell(x, Checks.SEA, 0, "");
         checks.row("an empty SEA", what -> x.sum(0, 0, what), 0, 0, 0, NONE, -2);
+        Checks.tell(x, Checks.SEA, 0, "shoal 0 9 4;shoal 0 8 4;" + "boat 0 0 1;".repeat(5) + "boat 0 0 2;");
+        Checks.tell(x, Checks.DAY, 0, "net 5 0;net 4 1;");
+        checks.row("six BOATS", what -> x.sum(0, 0, what), 9, 0, 2, 5, -2);
         checks.sentence("Terms 5", "SPARED: FISH that are not netted at the end.");
         checks.due("split ones, too", checks.told(FREE, "claim 0 0 1;split 0 0;").sum(0, 0, 1), 9);
         checks.due("a half netted", checks.told(FREE, "claim 0 0 1;split 0 0;net 0 1;").sum(0, 0, 1), 5);

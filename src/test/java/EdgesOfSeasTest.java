@@ -30,6 +30,8 @@ public final class EdgesOfSeasTest {
         winds();
         meet();
         tells();
+        cornersOfTheLargestSea();
+        seasInTurn();
         checks.finish();
     }
 
@@ -423,5 +425,40 @@ public final class EdgesOfSeasTest {
         checks.same("no such BOAT", NONE, b -> x.tells(0, b), -1, 6, 7);
         checks.same("no such SEA", NONE, sea -> x.tells(sea, 0), -1, 1);
         checks.same("no BOATS", NONE, b -> checks.told("").tells(0, b), -1, 0, 1);
+    }
+
+    private static void cornersOfTheLargestSea() {
+        checks.sentence("Terms 1", "A SEA has W columns and H rows, 2 .. 8 (6 and 6 at first), of CELLS, numbered row by row from 0 on");
+        int[] corners = {0, 7, 56, 63};
+        int[][] hours = {{0, 7, 7, 14}, {7, 0, 14, 7}, {7, 14, 0, 7}, {14, 7, 7, 0}};
+        for (int from = 0; from < 4; from++) {
+            for (int to = 0; to < 4; to++) {
+                for (int near = 0; near <= 1; near++) {
+                    ShoalClaims x = checks.told("size 8 8;coast 0 1 0 " + near + " 1;shoal " + corners[to] + " 9 4;boat "
+                        + corners[from] + " 0 0;boat " + corners[from] + " 0 0;");
+                    checks.due("hours from " + corners[from] + " to " + corners[to] + ", NEAR " + near, x.soon(0, 0, 0, 0),
+                        Math.max(0, hours[from][to] - near));
+                    int berth = near == 0 ? corners[to] : new int[] {0, 6, 48, 55}[to];
+                    checks.due("berth near " + corners[to], x.berth(0, 0, false), berth);
+                    checks.row("pair near " + corners[to], what -> x.pair(0, 0, 1, what), 0, berth, 9);
+                }
+            }
+        }
+    }
+
+    /** What one SEA answers is not in the way of what the other one does. */
+    private static void seasInTurn() {
+        checks.sentence("Terms 1", "SEAS, at most 2 (sort 0)");
+        ShoalClaims x = checks.told("size 8 8;coast 0 1 0 20 1;shoal 0 50 4;shoal 1 60 4;shoal 2 70 4;boat 0 20 0;boat 0 20 0;");
+        Checks.tell(x, Checks.SEA, NONE, "size 2 2;coast 0 1 0 0 1;shoal 0 1 4;shoal 1 3 4;shoal 2 2 4;boat 3 0 0;boat 3 0 0;");
+        for (int round = 0; round < 2; round++) {
+            checks.row("BERTH", sea -> x.berth(sea, 0, false), 0, 1, NONE);
+            checks.row("its FISH", sea -> x.berth(sea, 0, true), 180, 3, NONE);
+            checks.row("PAIR of the large one", what -> x.pair(0, 0, 1, what), 0, 0, 180, NONE);
+            checks.row("PAIR of the small one", what -> x.pair(1, 0, 1, what), 1, 2, 5, NONE);
+            checks.row("SOON", sea -> x.soon(sea, 0, 1, 0), 0, 1, NONE);
+            checks.row("hears", sea -> x.hears(sea, 0, NONE), 2, 2, NONE);
+            checks.row("WINDS", sea -> x.winds(sea, 2), 2, 2, NONE);
+        }
     }
 }
